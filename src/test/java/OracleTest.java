@@ -254,6 +254,8 @@ public final class OracleTest {
         int g = lots.nextInt(10) == 0 ? in(2, 9) : in(3, 8);
         int n = lots.nextInt(10) == 0 ? in(0, 15) : in(1, 14);
         int what = lots.nextInt(10) == 0 ? in(-1, 3) : in(0, 2);
+        // The same but for its nodes first: an answer may not come from another search.
+        if (n > 3) due("search(" + d + ", " + g + ", 3, 1)", x.search(d, g, 3, 1), o.search(d, g, 3, 1));
         if (lots.nextBoolean()) {
             due("search(" + d + ", " + g + ", " + n + ", " + what + ")", x.search(d, g, n, what), o.search(d, g, n, what));
         } else {

@@ -178,6 +178,18 @@ public final class PromiseTest {
         faulty("works cyclic 4\ttwist 0;", 1, 14);
         faulty("works cyclic 4 twist 0;\u00e9", 1, 23);
         faulty(head + ";", 2, 23);
+        faulty("works cyclic 4 twist 10;", 3, 21);
+        good(head + "places 1;", 2);
+        faulty(head + "places 6;", 3, 30);
+        faulty(head + "arc 1 0 by 0;", 3, 27);
+        faulty(head + "arc 0 1 by 0;", 3, 29);
+        faulty(head + "places 3;arc 2 3 by 0;", 3, 38);
+        faulty(head + "arc 0 0 by 4;", 3, 34);
+        faulty(head + "arcz 0 0 by 1;", 2, 23);
+        faulty(head + "keeps : 1 = 1 and 2;", 2, 42);
+        faulty(head + "keeps : 1 = 1 or [2 = 2;", 2, 46);
+        faulty(head + "weighs : 1 + * 2;", 2, 36);
+        faulty(head + "weighs : 2 * + 2;", 2, 36);
         faulty(head + "arc 0 0 by 1000;", 1, 34);
         faulty(head + "arc 0 0 by 1 2000;", 1, 36);
         faulty(head + "arc 0 0 by 1 20;", 2, 36);
@@ -272,6 +284,10 @@ public final class PromiseTest {
         due(x.product(4, 5), 3);
         on("works product 3 4 twist 0;");
         due(x.product(7, 10), 1);
+        on("works product 1 5 twist 0;");
+        due(x.product(3, 4), 2);
+        on("works mirrors 1 twist 0;");
+        due(x.product(1, 1), 0);
         on("works quaternions twist 0;");
         int[][] table = {{0, 1, 2, 3}, {1, 4, 3, 6}, {2, 7, 4, 1}, {3, 2, 5, 4}};
         for (int i = 0; i < 4; i++) {
@@ -442,6 +458,9 @@ public final class PromiseTest {
         on(PETERSEN);
         due(x.day(1, 0), -3);
         due(x.day(1, 41), -3);
+        int once = x.day(1, 1);
+        due(once == 0 || once == 1 ? 1 : 0, 1);
+        on(PETERSEN);
         int seed = 77;
         int times = 40;
         int many = 0;
@@ -830,6 +849,11 @@ public final class PromiseTest {
         due(x.search(4, 6, 14, 2), 13);
         due(x.search(3, 3, 4, 0), 1);
         due(x.search(3, 3, 4, 1), 7);
+        due(x.search(3, 3, 3, 1), 3);
+        due(x.search(3, 4, 3, 1), 3);
+        due(x.search(2, 4, 4, 1), 5);
+        due(x.search(2, 3, 4, 1), 6);
+        due(x.search(2, 3, 1, 0), 0);
         due(x.search(2, 3, 3, 3), -2);
         due(x.search(9, 3, 3, -1), -2);
         due(x.search(1, 3, 3, 0), -3);
@@ -911,6 +935,9 @@ public final class PromiseTest {
         due("one twist only: the first link", x.weigh(0), 0);
         tray(0, 2, 8);
         due(x.weigh(0), -1);
+        on("works cyclic 3 twist 0;arc 0 0 by 2;arc 0 0 by 1;");
+        tray(0, 2, 10101);
+        due("all weigh the same: the first link", x.weigh(0), 0);
     }
 
     private static void chances() {
