@@ -1,5 +1,5 @@
 /** Each promise of the document by answers that are worked out by hand: ordinary inputs, edges, refusals. */
-public final class PromiseTest {
+public final class PromiseTest extends Bench {
     private static final String PETERSEN = "works cyclic 5 twist 2;places 2;arc 0 0 by 1;arc 0 1 by 0;arc 1 1 by 2;";
     private static final String HEAWOOD = "works cyclic 7 twist 0;places 2;arc 0 1 by 0;arc 0 1 by 1;arc 0 1 by 3;";
     private static final String HEXAGON = "works mirrors 3 twist 1;half 0 by 3;half 0 by 4;";
@@ -7,61 +7,10 @@ public final class PromiseTest {
     private static final String WEIGHTS = "works cyclic 3 twist 4;arc 0 0 by 1;arc 0 0 by 1;weighs : arc * 50 + member * 10 + twist;";
 
     private static int promise = 0;
-    private static int wrong = 0;
-    private static CageLift x;
-
-    private static void due(String call, long got, long want) {
-        if (got != want) {
-            wrong++;
-            System.out.println("promise " + promise + ": " + call + " answered " + got + ", due is " + want);
-        }
-    }
-
-    private static void due(long got, long want) { due("line " + Thread.currentThread().getStackTrace()[2].getLineNumber(), got, want); }
-
-    /** A text comes onto the tape, filled up with blanks. */
-    private static void lay(String text) {
-        StringBuilder b = new StringBuilder(text);
-        while (b.length() % 20 != 0) b.append(' ');
-        for (int i = 0; i < b.length(); i += 20) {
-            int[] v = new int[5];
-            for (int j = 0; j < 20; j++) v[j / 4] = v[j / 4] << 8 | b.charAt(i + j) & 255;
-            x.feed(v[0], v[1], v[2], v[3], v[4]);
-        }
-    }
-
-    private static int tell(String text) {
-        lay(text);
-        return x.works(text.length());
-    }
-
-    /** A new object with a works. */
-    private static void on(String text) {
-        x = new CageLift();
-        int lines = tell(text);
-        if (lines < 1) due("works: " + text, lines, 1);
-    }
-
-    private static void faulty(String text, int kind, int place) {
-        due(text, tell(text), -30 - kind);
-        due("fault(0) of " + text, x.fault(0), kind);
-        due("fault(1) of " + text, x.fault(1), place);
-    }
-
-    private static void good(String text, int lines) {
-        due(text, tell(text), lines);
-        due("fault(0) of " + text, x.fault(0), 0);
-        due("fault(1) of " + text, x.fault(1), -1);
-    }
-
-    private static void tray(int t, int sort, long... values) {
-        due("numbers", x.numbers(t, sort, values.length), 0);
-        for (int i = 0; i < values.length; i++) x.write(t, i, values[i]);
-    }
 
     private static void nextPromise() {
         promise++;
-        x = new CageLift();
+        says("promise " + promise);
     }
 
     public static void main(String[] args) {
@@ -77,8 +26,7 @@ public final class PromiseTest {
         chances();
         traysAndImages();
         due("promises", promise, 49);
-        System.out.println(wrong == 0 ? "all promises are kept" : wrong + " answers are not as due");
-        if (wrong != 0) System.exit(1);
+        end();
     }
 
     private static void works() {
