@@ -319,6 +319,16 @@ public final class AskEdgeTest extends Bench {
         due(x.found(2, 3, 6, 1, 2), 1);
         due(x.found(2, 6, 6, 1, 2), 0);
         due(x.found(2, 3, 6, 1, 2), 1);
+        says("THE SEARCH: another d, another g, another n alone is another one");
+        due(x.search(2, 3, 4, 1), 6);
+        due("d", x.search(3, 3, 4, 1), 7);
+        due("d", x.search(4, 3, 4, 0), 0);
+        due("d", x.search(2, 3, 4, 0), 1);
+        due("g", x.search(2, 4, 4, 0), 1);
+        due("g", x.search(2, 5, 4, 0), 0);
+        due("n", x.search(2, 5, 5, 0), 1);
+        due("n", x.search(2, 5, 4, 0), 0);
+        due("the same again", x.search(2, 5, 4, 1), 4);
     }
 
     private static void weighedLengths() {
@@ -363,6 +373,13 @@ public final class AskEdgeTest extends Bench {
         due(x.twists(0), 1023);
         tray(0, 2, 111199);
         due(x.twists(0), 0);
+        on(FULL + "weighs : 12 - arc;");
+        for (int a = 0; a < 12; a++) {
+            tray(0, 2, a * 10000 + 12 - a);
+            due("arc " + a + ", its ONE", x.twists(0), 1023);
+            tray(0, 2, a * 10000 + 1100 + 12 - a);
+            due("arc " + a + ", its last MEMBER", x.twists(0), 1023);
+        }
         tray(0, 2, 111201);
         due(x.twists(0), -3);
         tray(0, 2, 120001);
@@ -418,6 +435,27 @@ public final class AskEdgeTest extends Bench {
         on("works cyclic 3 twist 0;arc 0 0 by 0;weighs : if member = 0 then 4 else if twist < 8 - member then 1 else 2 end end;");
         tray(0, 2, 4);
         due("6 at most is less than 7 and 10", x.weigh(0), 2);
+        says("Promise 41: of these TWISTS: the first and the last of them too, others not");
+        on("works cyclic 2 twist 0;arc 0 0 by 0;weighs : if member = 0 then if twist < 3 then 30 else 40 + twist end else if twist = 4 then 53 else 50 + twist end end;");
+        tray(0, 2, 30);
+        due(x.twists(0), 7);
+        due("three are alike, those told apart win", x.weigh(0), 1);
+        on("works cyclic 3 twist 0;arc 0 0 by 0;weighs : if member = 0 then 9 else if member = 1 then if twist < 3 then 30 else 40 + twist end else if twist = 4 then 53 else 50 + twist end end end;");
+        tray(0, 2, 9);
+        due("0, 1, 2 by the one, 3, 4 by the other", x.weigh(0), 2);
+        on("works cyclic 3 twist 0;arc 0 0 by 0;weighs : if member = 0 then 9 else if member = 1 then if twist > 6 then 30 else 40 + twist end else if twist = 4 then 53 else 50 + twist end end end;");
+        tray(0, 2, 9);
+        due("7, 8, 9 by the one, 3, 4 by the other", x.weigh(0), 2);
+        tray(0, 2, 130);
+        due("of 7, 8, 9 alone", x.twists(0), 7 << 7);
+        due(x.weigh(0), 2);
+        on("works cyclic 2 twist 0;arc 0 0 by 0;weighs : if member = 0 then if twist = 0 then 7 else 8 end else 1 + twist end;");
+        tray(0, 2, 7);
+        due("TWIST 0 alone", x.twists(0), 1);
+        due("the first LINK", x.weigh(0), 0);
+        tray(0, 2, 110);
+        due("TWIST 9 alone", x.twists(0), 512);
+        due("the first LINK", x.weigh(0), 0);
         says("Promise 41: a half's LINKS, all MEMBERS, CUT or not");
         on("works cyclic 4 twist 5;half 0 by 2;weighs : if member = 3 then twist + 1 else 1 end;keeps : 1 = 2;");
         x.cut(0);

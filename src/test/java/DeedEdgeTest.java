@@ -433,6 +433,17 @@ public final class DeedEdgeTest extends Bench {
         tray(2, 1, 19, 112, 11);
         due("what comes behind isn't done", x.perform(2), 1);
         due(x.count(3), 9);
+        says("Calls that did some can be UNDONE: one DEED is enough");
+        on("works cyclic 12 twist 5;arc 0 0 by 1;");
+        x.turn(0, 4);
+        tray(2, 1, 17, 0);
+        due(x.perform(2), 1);
+        due(x.count(7), 2);
+        due(x.undo(1), 1);
+        due(x.count(3), 5);
+        due("what was done ahead of it stays", x.arc(0, 2), 4);
+        due(x.undo(1), 0);
+        due(x.arc(0, 2), 1);
         says("Calls that did some can be UNDONE each as a whole: forty DEEDS at once");
         on("works cyclic 12 twist 5;" + "arc 0 0 by 0;".repeat(12));
         tray(2, 1, forty);

@@ -26,6 +26,7 @@ public final class NetworkEdgeTest extends Bench {
         ball();
         girth();
         ring();
+        firstRings();
         rings();
         through();
         bound();
@@ -125,6 +126,17 @@ public final class NetworkEdgeTest extends Bench {
         on(all.toString());
         for (int i = 0; i < 11; i++) due(x.neighbour(5, i), i < 5 ? i : i + 1);
         due("eleven others", x.neighbour(5, 11), -1);
+        says("NEIGHBOURS: of each NODE its own, whatever was asked ahead");
+        on("works cyclic 5 twist 0;arc 0 0 by 1;keeps : member < 4;");
+        x.parts();
+        x.light(0, 4);
+        for (int n = 4; n >= 0; n--) {
+            int before = n > 0 ? n - 1 : -1;
+            int behind = n < 4 ? n + 1 : -1;
+            due("the least of " + n, x.neighbour(n, 0), before >= 0 ? before : behind);
+            due("the next of " + n, x.neighbour(n, 1), before >= 0 ? behind : -1);
+            due(x.neighbour(n, 2), -1);
+        }
         on(RING);
         due("the last of sixty", x.neighbour(0, 0), 12);
         due(x.neighbour(0, 1), 59);
@@ -142,6 +154,12 @@ public final class NetworkEdgeTest extends Bench {
         due(x.regular(), 2);
         on(LINE);
         due("its last NODE is unlike", x.regular(), -1);
+        for (int n = 0; n < 4; n++) {
+            on("works cyclic 4 twist 0;arc 0 0 by 0;keeps : member = " + n + ";");
+            due("one alone has a LINK", x.regular(), -1);
+            on("works cyclic 4 twist 0;arc 0 0 by 0;keeps : not member = " + n + ";");
+            due("one alone has none", x.regular(), -1);
+        }
         on("works cyclic 12 twist 0;places 5;arc 4 4 by 0;keeps : member = 11;");
         due("the last NODE alone", x.regular(), -1);
         on("works cyclic 12 twist 0;places 5;arc 0 0 by 0;keeps : member = 0;");
@@ -182,6 +200,16 @@ public final class NetworkEdgeTest extends Bench {
         due("a LINK to itself at the last NODE", x.twoColours(), 0);
         on(LINE);
         due(x.twoColours(), 1);
+        says("Promise 22: of several parts each can be, or one can't");
+        on("works cyclic 6 twist 0;places 3;arc 0 0 by 1;arc 1 1 by 1;arc 2 2 by 3;");
+        due(x.twoColours(), 1);
+        x.turn(2, 2);
+        due(x.parts(), 4);
+        due("the last ones can't", x.twoColours(), 0);
+        x.turn(2, 3);
+        x.turn(0, 2);
+        due(x.parts(), 6);
+        due("the first ones can't", x.twoColours(), 0);
     }
 
     private static void far() {
@@ -250,6 +278,19 @@ public final class NetworkEdgeTest extends Bench {
         due("a line", x.girth(), -1);
         on(BARE + "arc 4 4 by 0;keeps : member = 11;");
         due("at the last NODE", x.girth(), 1);
+        says("GIRTH: the shortest length, wherever it lies: one longer, by one, comes first");
+        for (int length = 3; length <= 11; length++) {
+            // At each place a line of links by 1, closed by one link; place 0 has the longer ring, place 4 the shorter one.
+            String laws = "keeps : arc = 0 and member < " + length + " or arc = 1 and member = 0 or arc = 2 and member < " + (length - 1) + " or arc = 3 and member = 0;";
+            on("works cyclic 12 twist 0;places 5;arc 0 0 by 1;arc 0 0 by " + length + ";arc 4 4 by 1;arc 4 4 by " + (length - 1) + ";" + laws);
+            due("the second ring is one of " + length, x.girth(), length);
+            due(x.ring(0), 48);
+            due(x.ring(length), -1);
+            due(x.through(0), length + 1);
+            due(x.through(48), length);
+            due(x.through(59), -1);
+            due(x.lightest(), length);
+        }
     }
 
     private static void ring() {
@@ -283,12 +324,53 @@ public final class NetworkEdgeTest extends Bench {
         on("works cyclic 12 twist 0;places 5;arc 4 4 by 0;arc 0 0 by 1;keeps : arc = 1 or member > 9;");
         due("a shorter one goes ahead of a less one", x.ring(0), 58);
         due(x.ring(1), -1);
+        on("works cyclic 6 twist 0;places 2;arc 0 1 by 0;arc 1 0 by 0;keeps : arc = 0 or member > 3;");
+        due("one LINK of two NODES is no RING", x.ring(0), 4);
+        due(x.ring(1), 10);
+        due(x.ring(2), -1);
         on("works cyclic 6 twist 0;arc 0 0 by 1;arc 0 0 by 2;keeps : arc = 0 or member = 3 or member = 2;");
         // Rings of three: 2 3 4 and 3 4 5.
         due(x.girth(), 3);
         due(x.ring(0), 2);
         due(x.ring(1), 3);
         due(x.ring(2), 4);
+    }
+
+    private static void firstRings() {
+        for (int g = 1; g < 12; g++) {
+            for (int h = 0; h < 12; h += 5) {
+                says("The first RING, as by going all ways: voltages " + g + " and " + h);
+                String text = "works mirrors 6 twist 0;places 3;arc 0 1 by " + g + ";arc 0 2 by " + h + ";arc 1 2 by 7;arc 0 1 by 0;keeps : not [arc = 3 and member < 4];";
+                int[] path = new int[36];
+                boolean[][] joined = new boolean[path.length][path.length];
+                for (int u = 0; u < path.length; u++) {
+                    on(text);
+                    for (int v = 0; v < u; v++) joined[u][v] = joined[v][u] = x.far(u, v) == 1;
+                }
+                int length = x.girth();
+                if (length < 3) continue;
+                boolean found = false;
+                for (int s = 0; s < path.length && !found; s++) {
+                    path[0] = s;
+                    found = goOn(path, 1, length, joined);
+                }
+                for (int i = 0; i < length; i++) due("ring(" + i + ")", x.ring(i), found ? path[i] : -1);
+                due(x.ring(length), -1);
+            }
+        }
+    }
+
+    /** Whether the path goes on to a ring, its nodes greater than the first, by the least ones that can be. */
+    private static boolean goOn(int[] path, int many, int length, boolean[][] joined) {
+        if (many == length) return joined[path[many - 1]][path[0]] && path[1] < path[many - 1];
+        for (int v = path[0] + 1; v < path.length; v++) {
+            boolean met = false;
+            for (int i = 0; i < many; i++) met |= path[i] == v;
+            if (met || !joined[path[many - 1]][v]) continue;
+            path[many] = v;
+            if (goOn(path, many + 1, length, joined)) return true;
+        }
+        return false;
     }
 
     private static void rings() {
@@ -321,6 +403,10 @@ public final class NetworkEdgeTest extends Bench {
         due(x.rings(6), 0);
         on("works cyclic 4 twist 0;" + "arc 0 0 by 1;".repeat(12));
         due(x.rings(4), 12 * 12 * 12 * 12);
+        on("works cyclic 4 twist 0;arc 0 0 by 0;arc 0 0 by 0;arc 0 0 by 1;half 0 by 2;");
+        // All four joined by twos, each with two links to itself.
+        int[] four = {8, 0, 4, 3, 0, 0};
+        for (int n = 1; n <= 6; n++) due("beside LINKS to themselves, rings(" + n + ")", x.rings(n), four[n - 1]);
         says("no NODE met twice, no LINK: of all twelve NODES joined by twos");
         StringBuilder all = new StringBuilder("works cyclic 12 twist 0;half 0 by 6;");
         for (int g = 1; g < 6; g++) all.append("arc 0 0 by ").append(g).append(';');
@@ -338,6 +424,9 @@ public final class NetworkEdgeTest extends Bench {
         due(x.through(0), 1);
         on(PAIR);
         due(x.through(1), 2);
+        due(x.through(0), 2);
+        on("works cyclic 3 twist 0;places 2;arc 0 1 by 0;arc 1 0 by 0;arc 0 1 by 0;");
+        for (int n = 0; n < 6; n++) due("three LINKS", x.through(n), 2);
         on(LINK);
         due(x.through(1), -1);
         on(RING);
@@ -422,6 +511,13 @@ public final class NetworkEdgeTest extends Bench {
         due("the lightest", x.light(0, 59), 59);
         on(BARE);
         due(x.light(0, 59), -1);
+        on("works cyclic 4 twist 0;arc 0 0 by 1;arc 0 0 by 2;keeps : arc = 0 and member < 3 or arc = 1 and member = 0;weighs : 1 + arc * 50;");
+        due("a way by more LINKS can weigh less", x.light(0, 3), 3);
+        due(x.light(0, 2), 2);
+        due(x.light(3, 0), 3);
+        on("works cyclic 5 twist 0;arc 0 0 by 4;arc 0 0 by 2;keeps : arc = 0 and member > 0 or arc = 1 and member = 2;weighs : 1 + arc * 50;");
+        due("and from the other end on", x.light(4, 0), 4);
+        due(x.light(4, 2), 2);
         on("works cyclic 2 twist 0;arc 0 0 by 1;arc 0 0 by 1;weighs : 40 - arc * 10 - member * 5;");
         due("of several LINKS the lightest", x.light(0, 1), 25);
     }

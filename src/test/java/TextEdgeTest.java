@@ -23,6 +23,7 @@ public final class TextEdgeTest extends Bench {
         numbers();
         words();
         firstFault();
+        truths();
         theEnd();
         nesting();
         nestingAside();
@@ -35,6 +36,11 @@ public final class TextEdgeTest extends Bench {
         for (int i = 0; i < 10; i++) due("count(" + i + ")", x.count(i), counts[i]);
         due(x.product(0, 0), 0);
         due(x.product(0, 1), -2);
+        due(x.inverse(0), 0);
+        due(x.inverse(1), -2);
+        due(x.orderOf(0), 1);
+        due(x.orderOf(1), -2);
+        due(x.centre(), 1);
         due(x.arc(0, 0), -2);
         due(x.turn(0, 0), -11);
         due(x.cut(0), -11);
@@ -366,6 +372,26 @@ public final class TextEdgeTest extends Bench {
         due(tell(TWO + "half 0 by 1;"), 2);
         due(x.count(5), 1);
         due(x.light(0, 1), 1);
+        due("keeps tells nothing of weights", tell(TWO + "half 0 by 1;keeps : 7 > 2;"), 3);
+        due(x.light(0, 1), 1);
+        due("weighs tells nothing of what is kept", tell(TWO + "half 0 by 1;weighs : 0;"), 3);
+        due(x.count(5), 1);
+        due(tell(TWO + "half 0 by 1;weighs : 1 + 2 + 3 + 4 + 5 + 6;keeps : 2 > 1;"), 4);
+        due(x.count(5), 1);
+        due(x.light(0, 1), 21);
+        due(tell(TWO + "half 0 by 1;keeps : 1 = 2;"), 3);
+        due(x.count(5), 0);
+        due(tell(TWO + "half 0 by 1;"), 2);
+        due(x.count(5), 1);
+        due(x.light(0, 1), 1);
+        says("half, arc: of each text by itself");
+        on(TWO + "places 2;half 1 by 1;half 0 by 1;");
+        due(x.arc(0, 3), 1);
+        due(tell(TWO + "arc 0 0 by 1;half 0 by 1;"), 3);
+        due(x.arc(0, 3), 0);
+        due(x.arc(1, 3), 1);
+        due(x.count(5), 3);
+        due(x.count(0), 1);
     }
 
     private static void bytes() {
@@ -384,6 +410,10 @@ public final class TextEdgeTest extends Bench {
             String within = "works" + c + "cyclic 1 twist 0;";
             if (blank) good(within, 1);
             else faulty(within, small || digit || signs.indexOf(c) >= 0 ? 2 : 1, small ? 0 : 5);
+            // Right behind an N, which goes on with digits alone.
+            String number = "works cyclic 1" + c + " twist 0;";
+            if (blank || c >= '0' && c <= '2') good(number, 1);
+            else faulty(number, digit ? 3 : small || signs.indexOf(c) >= 0 ? 2 : 1, digit ? 13 : 14);
             String inLaw = TWO + "weighs : 2 " + c;
             if (blank) faulty(inLaw, 2, inLaw.length());
             else if (c == ';') good(inLaw, 2);
@@ -431,6 +461,10 @@ public final class TextEdgeTest extends Bench {
         faultAtMark("^Works cyclic 1 twist 0;", 1);
         faultAtMark("works ^Cyclic 1 twist 0;", 1);
         faultAtMark("works ^cycliC 1 twist 0;", 2);
+        for (String word : "works twist places arc half by keeps weighs if then else end from to member not and or dihedral".split(" ")) {
+            faultAtMark("works ^" + word + " 3 twist 0;", 2);
+            faultAtMark("works cyclic 3 ^" + (word.equals("twist") ? "twists" : word) + " 0;", 2);
+        }
         for (String word : "works cyclic mirrors product quaternions twist by if then else end from to member not and or ends a z".split(" ")) {
             faultAtMark(ONE + "^" + word + " 0 0 by 0;", 2);
         }
@@ -476,6 +510,53 @@ public final class TextEdgeTest extends Bench {
         faultAtMark(ONE + "^;", 2);
     }
 
+    private static void truths() {
+        says("UNIT: not UNIT, [ TRUTH ], or SUM, one of = < >, SUM: what lacks can't stand there");
+        faultAtMark(TWO + "keeps : 1^;", 2);
+        faultAtMark(TWO + "keeps : not 1^;", 2);
+        faultAtMark(TWO + "keeps : 1 = 1 and 2^;", 2);
+        faultAtMark(TWO + "keeps : 1 = 1 or 2^;", 2);
+        faultAtMark(TWO + "keeps : [1^];", 2);
+        faultAtMark(TWO + "keeps : [1 = 1^;", 2);
+        faultAtMark(TWO + "keeps : [1 = 1]^];", 2);
+        faultAtMark(TWO + "keeps : ^];", 2);
+        faultAtMark(TWO + "keeps : ^;", 2);
+        faultAtMark(TWO + "keeps : 1 + ^;", 2);
+        faultAtMark(TWO + "keeps : ^= 1;", 2);
+        faultAtMark(TWO + "keeps : 1 = ^;", 2);
+        faultAtMark(TWO + "keeps : 1 = 1 ^= 1;", 2);
+        faultAtMark(TWO + "keeps : 1 = 1 ^1 = 1;", 2);
+        faultAtMark(TWO + "keeps : 1 = 1 ^not 1 = 1;", 2);
+        faultAtMark(TWO + "keeps : ^and 1 = 1;", 2);
+        faultAtMark(TWO + "keeps : (1 ^= 1);", 2);
+        faultAtMark(TWO + "keeps : [1 = 1] ^= 1;", 2);
+        says("SUM, TERM, ATOM: what lacks can't stand there");
+        faultAtMark(TWO + "weighs : ^;", 2);
+        faultAtMark(TWO + "weighs : 1 + ^;", 2);
+        faultAtMark(TWO + "weighs : ^- 1;", 2);
+        faultAtMark(TWO + "weighs : ^+ 1;", 2);
+        faultAtMark(TWO + "weighs : ^* 1;", 2);
+        faultAtMark(TWO + "weighs : 1 * ^- 1;", 2);
+        faultAtMark(TWO + "weighs : (^);", 2);
+        faultAtMark(TWO + "weighs : (1^;", 2);
+        faultAtMark(TWO + "weighs : 1^);", 2);
+        faultAtMark(TWO + "weighs : ^[1 = 1];", 2);
+        faultAtMark(TWO + "weighs : 1 ^= 1;", 2);
+        faultAtMark(TWO + "weighs : if 1 = 1 then 2^;", 2);
+        faultAtMark(TWO + "weighs : if 1 = 1 then 2 else 3^;", 2);
+        faultAtMark(TWO + "weighs : if 1 = 1 ^else 3 end;", 2);
+        faultAtMark(TWO + "weighs : if 1 ^then 2 else 3 end;", 2);
+        faultAtMark(TWO + "weighs : if 1 = 1 then 2 ^end;", 2);
+        faultAtMark(TWO + "weighs : if 1 = 1 then ^else 3 end;", 2);
+        faultAtMark(TWO + "weighs : if 1 = 1 then 2 else ^end;", 2);
+        faultAtMark(TWO + "weighs : 1 ^end;", 2);
+        says("keeps : TRUTH, weighs : SUM: the sign between them");
+        faultAtMark(TWO + "keeps ^1 = 1;", 2);
+        faultAtMark(TWO + "weighs ^1;", 2);
+        faultAtMark(TWO + "keeps :^: 1 = 1;", 2);
+        good(TWO + "keeps:1=1;weighs:1;", 3);
+    }
+
     private static void theEnd() {
         says("2 it can't stand there (the end: the text's length)");
         String[] cut = {"", "works", "works cyclic", "works cyclic 1", "works cyclic 1 twist", "works cyclic 1 twist 0", "works product",
@@ -501,6 +582,12 @@ public final class TextEdgeTest extends Bench {
         lay(ONE);
         due("half a word", x.works(3), -32);
         due(x.fault(1), 0);
+        lay(ONE);
+        due("a word but for its last letter", x.works(4), -32);
+        due(x.fault(1), 0);
+        lay(ONE);
+        due("another one", x.works(19), -32);
+        due(x.fault(1), 15);
         lay(ONE + "#");
         due(x.works(ONE.length()), 1);
         lay("works cyclic 1 twist 0001;");
@@ -567,6 +654,14 @@ public final class TextEdgeTest extends Bench {
         faultAtMark(TWO + "weighs : if [[[[[1 = 1]]]]] then (((((1))))) else (((((^(2)))))) end;", 4);
         faultAtMark(TWO + "weighs : if [[[[[1 = 1]]]]] then (((((^(1)))))) else 2 end;", 4);
         faultAtMark(TWO + "weighs : if [[[[[^[1 = 1]]]]]] then 1 else 2 end;", 4);
+        says("a seventh, behind what ended: of or, and, + - *, a comparison");
+        for (String ahead : new String[] {"1 = 2 or ", "1 = 2 and ", "not 1 = 2 or ", "1 = 1 or 1 = 1 or ", "1 = 2 or 1 = 1 and "}) {
+            faultAtMark(TWO + "keeps : " + ahead + "[[[[[[^[1 = 1]]]]]]];", 4);
+            faultAtMark(TWO + "keeps : " + ahead + "not not not not not not ^not 1 = 1;", 4);
+            faultAtMark(TWO + "keeps : " + ahead + "1 = ((((((^(1)))))));", 4);
+            faultAtMark(TWO + "keeps : [" + ahead + "[[[[[^[1 = 1]]]]]]];", 4);
+        }
+        for (String ahead : new String[] {"1 + ", "1 - ", "1 * ", "1 + 1 * ", "1 * 1 - "}) faultAtMark(TWO + "weighs : " + ahead + "((((((^(1)))))));", 4);
         says("a law of the greatest depth tells what it must");
         on(TWO + "half 0 by 1;weighs : 1 + 2 * (3 + 4 * (5 - 6 * (7 + 8 * (9 - 1 * (2 + 1 * (3 - 4))))));");
         // 3 - 4 = -1; 2 - 1 = 1; 9 - 1 = 8; 7 + 64 = 71; 5 - 426 = -421; 3 - 1684 = -1681; 1 - 3362.
