@@ -337,27 +337,36 @@ public final class NetworkEdgeTest extends Bench {
     }
 
     private static void firstRings() {
+        // The ring 2 4 5, and a link 0 5 that leads to it.
+        firstRing("works cyclic 12 twist 0;arc 0 0 by 5;arc 0 0 by 2;arc 0 0 by 1;arc 0 0 by 3;keeps : arc = 0 and member = 0 or arc = 1 and member = 2 or arc = 2 and member = 4 or arc = 3 and member = 2;");
+        due(x.ring(0), 2);
         for (int g = 1; g < 12; g++) {
             for (int h = 0; h < 12; h += 5) {
-                says("The first RING, as by going all ways: voltages " + g + " and " + h);
-                String text = "works mirrors 6 twist 0;places 3;arc 0 1 by " + g + ";arc 0 2 by " + h + ";arc 1 2 by 7;arc 0 1 by 0;keeps : not [arc = 3 and member < 4];";
-                int[] path = new int[36];
-                boolean[][] joined = new boolean[path.length][path.length];
-                for (int u = 0; u < path.length; u++) {
-                    on(text);
-                    for (int v = 0; v < u; v++) joined[u][v] = joined[v][u] = x.far(u, v) == 1;
-                }
-                int length = x.girth();
-                if (length < 3) continue;
-                boolean found = false;
-                for (int s = 0; s < path.length && !found; s++) {
-                    path[0] = s;
-                    found = goOn(path, 1, length, joined);
-                }
-                for (int i = 0; i < length; i++) due("ring(" + i + ")", x.ring(i), found ? path[i] : -1);
-                due(x.ring(length), -1);
+                firstRing("works mirrors 6 twist 0;places 3;arc 0 1 by " + g + ";arc 0 2 by " + h + ";arc 1 2 by 7;arc 0 1 by 0;keeps : not [arc = 3 and member < 4];");
+                firstRing("works cyclic 12 twist 0;places 2;arc 0 0 by " + g + ";arc 1 1 by 5;arc 0 1 by " + h + ";keeps : not [arc = 0 and member < 3];");
             }
+            firstRing("works quaternions twist 0;places 3;arc 0 1 by " + g % 8 + ";arc 1 2 by 3;arc 2 0 by 1;arc 1 0 by 2;");
         }
+    }
+
+    private static void firstRing(String text) {
+        says("The first RING, as by going all ways: " + text);
+        on(text);
+        int[] path = new int[x.count(4)];
+        boolean[][] joined = new boolean[path.length][path.length];
+        for (int u = 0; u < path.length; u++) {
+            on(text);
+            for (int v = 0; v < u; v++) joined[u][v] = joined[v][u] = x.far(u, v) == 1;
+        }
+        int length = x.girth();
+        if (length < 3) return;
+        boolean found = false;
+        for (int s = 0; s < path.length && !found; s++) {
+            path[0] = s;
+            found = goOn(path, 1, length, joined);
+        }
+        for (int i = 0; i < length; i++) due("ring(" + i + ")", x.ring(i), found ? path[i] : -1);
+        due(x.ring(length), -1);
     }
 
     /** Whether the path goes on to a ring, its nodes greater than the first, by the least ones that can be. */
@@ -427,6 +436,13 @@ public final class NetworkEdgeTest extends Bench {
         due(x.through(0), 2);
         on("works cyclic 3 twist 0;places 2;arc 0 1 by 0;arc 1 0 by 0;arc 0 1 by 0;");
         for (int n = 0; n < 6; n++) due("three LINKS", x.through(n), 2);
+        on("works cyclic 2 twist 0;arc 0 0 by 1;weighs : 9 - member * 5;");
+        due(x.light(0, 1), 4);
+        due("behind the lightest way, too", x.through(1), 2);
+        due(x.lightest(), 13);
+        due(x.through(0), 2);
+        due(x.light(1, 0), 4);
+        due(x.through(0), 2);
         on(LINK);
         due(x.through(1), -1);
         on(RING);

@@ -199,6 +199,15 @@ public final class TextEdgeTest extends Bench {
         faultAtMark(blank.substring(0, 899) + "^1", 2);
         faultAtMark(blank.substring(0, 890) + "places   1^", 2);
         good(blank.substring(0, 890) + "places  1;", 2);
+        for (String word : new String[] {"w", "wor", "pla", "place", "hal", "quaternion", "o", "x"}) {
+            faultAtMark(blank.substring(0, 900 - word.length()) + "^" + word, 2);
+        }
+        faultAtMark(blank.substring(0, 894) + "places^", 2);
+        says("one text behind the other: each has all the room");
+        for (int i = 0; i < 9; i++) {
+            due(tell(full(head + "weighs:0", "+0", "+" + (i + 3) + ";")), 3);
+            due("text " + i, x.light(0, 1), i + 3);
+        }
     }
 
     private static void kinds() {
